@@ -110,6 +110,13 @@ public final class ActsTest {
         x.ticks(1);
         CHECK.due("awaits in vain", x.worker(0, 6), 1);
         CHECK.due("waits for nobody", x.waits(0), 0);
+        HangWatch z = Check.made("worker rest 1,await 2,await 3;worker stop;worker send 0,send 3;worker await 2,send 0;");
+        z.ticks(2);
+        CHECK.due("taken from worker 2", z.messages(0, 2), 0);
+        CHECK.due("done", z.worker(0, 0), 2);
+        CHECK.due("worker 3 has its own", z.worker(3, 0), 1);
+        z.ticks(2);
+        CHECK.due("all done", z.count(1), 4);
         HangWatch y = Check.made("worker work 3,await 2;worker send 0,stop;worker rest 9,send 0;");
         y.ticks(4);
         CHECK.due("a message of another does not do", y.worker(0, 6), 1);
@@ -290,6 +297,18 @@ public final class ActsTest {
         x.feed(1, 2, 3, 4, 5);
         x.undo();
         CHECK.due("the tape stays", x.count(13), 20);
+        // More than are kept: the rows that went round come back.
+        HangWatch y = Check.made("window 1;grace 0;worker rest 2,again;");
+        y.ticks(100);
+        CHECK.due("kept", y.count(10), 30);
+        CHECK.due("eldest", y.stall(0, 0), 13);
+        y.ticks(40);
+        CHECK.due("eldest later", y.stall(0, 0), 52);
+        y.undo();
+        CHECK.due("told in all", y.count(11), 34);
+        for (int k = 0; k < 30; k++) {
+            CHECK.due("stall " + k, y.stall(k, 0), 13 + 3 * k);
+        }
     }
 
     private static void state(HangWatch x, int w, int place, int ticked, int quiet, int steps) {

@@ -36,6 +36,7 @@ public final class ModelTest {
             int acts = random.nextInt(12);
             for (int k = 0; k < acts; k++) {
                 act();
+                askOne(random.nextInt(9), random.nextInt(9));
                 if (random.nextInt(3) == 0) {
                     lookAtAll();
                 }
@@ -57,9 +58,17 @@ public final class ModelTest {
         return choices[random.nextInt(choices.length)];
     }
 
-    private String step(int workers, int locks, int pipes) {
+    /** Steps by theme: 0 of all sorts, 1 locks, 2 pipes, 3 messages, 4 rests that go round. */
+    private static final int[][] THEMES = {
+        {0, 1, 2, 3, 4, 5, 6, 7, 8, 9, 10, 11, 12, 13, 14, 15},
+        {0, 2, 2, 2, 5, 5, 13},
+        {0, 7, 7, 9, 9, 13, 14},
+        {0, 11, 11, 11, 12, 12, 13, 15},
+        {13, 13, 13, 14, 2, 5, 9, 7}};
+
+    private String step(int theme, int workers, int locks, int pipes) {
         int other = random.nextInt(workers);
-        return switch (random.nextInt(16)) {
+        return switch (some(THEMES[theme])) {
             case 0, 1 -> "work " + some(1, 1, 2, 3, 5, 50);
             case 2, 3, 4 -> "lock " + random.nextInt(locks);
             case 5, 6 -> "free " + random.nextInt(locks);
@@ -78,6 +87,7 @@ public final class ModelTest {
         int workers = 1 + random.nextInt(8);
         int locks = 1 + random.nextInt(6);
         int pipes = 1 + random.nextInt(4);
+        int theme = random.nextInt(THEMES.length);
         if (random.nextBoolean()) {
             text.append("window ").append(some(1, 1, 2, 3, 5, 50)).append(';');
         }
@@ -91,7 +101,7 @@ public final class ModelTest {
             text.append("worker ");
             int steps = 1 + random.nextInt(random.nextInt(3) == 0 ? 12 : 6);
             for (int k = 0; k < steps; k++) {
-                String step = step(workers, locks, pipes);
+                String step = step(theme, workers, locks, pipes);
                 boolean own = step.equals("send " + w) || step.equals("await " + w);
                 boolean early = k + 1 < steps && (step.equals("stop") || step.equals("again")) && random.nextInt(4) > 0;
                 text.append(k == 0 ? "" : ",").append(own || early ? "work 1" : step);
@@ -151,7 +161,7 @@ public final class ModelTest {
 
     private void act() {
         int w = random.nextInt(4) == 0 ? odd() : random.nextInt(8);
-        int n = some(1, 1, 1, 2, 3, 5, 10, random.nextInt(30) == 0 ? 200 : 7, 0, 201);
+        int n = some(1, 1, 1, 2, 3, 5, 10, random.nextInt(12) == 0 ? 200 : 7, 0, 201);
         switch (random.nextInt(10)) {
             case 0, 1, 2 -> due("ticks " + n, x.ticks(n), m.ticks(n));
             case 3 -> due("watch", x.watch(), m.watch());
@@ -175,6 +185,21 @@ public final class ModelTest {
                     due("again " + k, x.again(k), m.again(k));
                 }
             }
+        }
+    }
+
+    /** One call right behind an act, so that none can answer from what another one saw. */
+    private void askOne(int which, int w) {
+        switch (which) {
+            case 0 -> due("first waits " + w, x.waits(w), m.waits(w));
+            case 1 -> due("first way " + w, x.way(w, -1), m.way(w, -1));
+            case 2 -> due("first ring " + w, x.ring(w), m.ring(w));
+            case 3 -> due("first freed " + w, x.freed(w), m.freed(w));
+            case 4 -> due("first fewest", x.fewest(true), m.fewest(true));
+            case 5 -> due("first count", x.count(w), m.count(w));
+            case 6 -> due("first worker " + w, x.worker(w, 10), m.worker(w, 10));
+            case 7 -> due("first neighbour " + w, x.worker(w, 11), m.worker(w, 11));
+            default -> due("first free " + w, x.free(w), m.free(w));
         }
     }
 

@@ -14,6 +14,7 @@ public final class StateTest {
         can();
         freeToGo();
         ways();
+        askedFirst();
         neighbours();
         blockers();
         stalls();
@@ -219,6 +220,36 @@ public final class StateTest {
             + "worker lock 4,lock 5;worker lock 5,get 0;worker put 1,put 1,put 0,put 2;worker get 2,get 1;");
         v.ticks(2);
         way(v, 0, 2, 0, 1, 2, 3, 4, 5, 6, 7);
+    }
+
+    /** Each call looks anew: none answers from what an earlier call saw. */
+    private static void askedFirst() {
+        String text = "worker lock 0,lock 0,stop;worker rest 1,lock 0;";
+        HangWatch x = Check.made(text);
+        x.ticks(2);
+        CHECK.due("ring", x.ring(1), 1);
+        x.free(0);
+        CHECK.due("ring", x.ring(0), -1);
+        x.undo();
+        CHECK.due("waits", x.waits(1), 1);
+        x.free(0);
+        CHECK.due("way", x.way(0, -1), -1);
+        x.undo();
+        CHECK.due("way", x.way(0, -1), 1);
+        x.free(0);
+        CHECK.due("freed", x.freed(0), -1);
+        x.undo();
+        CHECK.due("fewest", x.fewest(true), 1);
+        x.free(0);
+        CHECK.due("fewest", x.fewest(true), 0);
+        x.undo();
+        CHECK.due("hard", x.worker(0, 7), 1);
+        x.ticks(9);
+        CHECK.due("hard", x.count(7), 2);
+        x.later(0, 7);
+        CHECK.due("ring", x.ring(0), 1);
+        x.told(9, 1);
+        CHECK.due("ring", x.ring(0), 1);
     }
 
     private static void way(HangWatch x, int w, int ring, int... want) {

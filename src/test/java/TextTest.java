@@ -148,6 +148,11 @@ public final class TextTest {
         fault(x, "Window 5;", 1, 0);
         fault(x, "windows 5;", 1, 0);
         fault(x, "windo 5;", 1, 0);
+        fault(x, "vindow 5;", 1, 0);
+        fault(x, "windowz 5;", 1, 0);
+        fault(x, "worker xork 1;", 1, 7);
+        fault(x, "worker putz 1;", 1, 7);
+        fault(x, "windowwindow 5;", 1, 0);
         fault(x, "work er stop;", 1, 0);
         fault(x, "worker st op;", 1, 7);
         fault(x, "window 1 2;", 1, 9);

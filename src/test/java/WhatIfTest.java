@@ -176,6 +176,13 @@ public final class WhatIfTest {
         x.ticks(1);
         x.again(0);
         CHECK.due("taken anew", x.count(2), 8);
+        HangWatch z = Check.made("window 1;grace 0;worker rest 2,again;");
+        z.ticks(100);
+        z.image(0);
+        z.ticks(50);
+        z.again(0);
+        CHECK.due("the eldest of the image", z.stall(0, 0), 13);
+        CHECK.due("the latest of the image", z.stall(29, 0), 100);
         // The tape's bytes, not only how many: they make a text.
         HangWatch y = new HangWatch();
         Check.load(y, "worker stop;");
