@@ -44,8 +44,6 @@ public final class HangWatch {
     private final Scene future = new Scene();
 
     public HangWatch() {
-        now.plan.clear();
-        now.scene.begin(now.plan);
     }
 
     public int feed(int a, int b, int c, int d, int e) {
@@ -384,9 +382,8 @@ public final class HangWatch {
         Scene scene = now.scene;
         for (int w = 0; w < now.plan.workers; w++) {
             if (has(fresh, w)) {
-                int row = now.stalls.open(scene.tick, w);
                 int blocker = trial.blocker(scene, view, w);
-                now.stalls.fill(row, view.stallKind(w), blocker, view.neighbour(w));
+                now.stalls.keep(scene.tick, w, view.stallKind(w), blocker, view.neighbour(w));
             }
         }
     }
@@ -470,6 +467,10 @@ public final class HangWatch {
         final int[] numbers = new int[MOST_WORKERS * MOST_STEPS];
         final int[] reach = new int[MOST_WORKERS * MOST_STEPS];
         final int[] rooms = new int[PIPES];
+
+        Plan() {
+            Arrays.fill(rooms, 1);
+        }
 
         void clear() {
             workers = 0;
@@ -589,6 +590,10 @@ public final class HangWatch {
         final int[] holders = new int[LOCKS];
         final int[] lies = new int[PIPES];
         final int[] mail = new int[MOST_WORKERS * MOST_WORKERS];
+
+        Scene() {
+            Arrays.fill(holders, NONE);
+        }
 
         void begin(Plan plan) {
             tick = 0;
@@ -771,24 +776,20 @@ public final class HangWatch {
             total = other.total;
         }
 
-        /** A new STALL, the eldest making way for it: its row. */
-        int open(int tick, int worker) {
-            int row = (eldest + kept) % KEPT_STALLS;
+        /** A STALL more; where thirty are kept the eldest makes way for it. */
+        void keep(int tick, int worker, int kind, int blocker, int neighbour) {
+            int row = (eldest + kept) % KEPT_STALLS * STALL_PARTS;
             if (kept < KEPT_STALLS) {
                 kept++;
             } else {
                 eldest = (eldest + 1) % KEPT_STALLS;
             }
             total++;
-            set(rows, row * STALL_PARTS, tick);
-            set(rows, row * STALL_PARTS + 1, worker);
-            return row;
-        }
-
-        void fill(int row, int kind, int blocker, int neighbour) {
-            set(rows, row * STALL_PARTS + 2, kind);
-            set(rows, row * STALL_PARTS + 3, blocker);
-            set(rows, row * STALL_PARTS + 4, neighbour);
+            set(rows, row, tick);
+            set(rows, row + 1, worker);
+            set(rows, row + 2, kind);
+            set(rows, row + 3, blocker);
+            set(rows, row + 4, neighbour);
         }
 
         int part(int k, int what) {
