@@ -167,35 +167,33 @@ public final class ActsBoundaryTest {
 
     private static void undo() {
         DOC.says("Promise 10", "The latest ACT is UNDONE (STALLS, too)", () -> {
-            HangWatch x = Check.made("window 2;pipe 0 9;worker lock 0,put 0,send 1,get 1,lock 1;worker rest 2,free 5,rest 9;");
-            x.ticks(2);
-            String before = all(x);
-            x.ticks(5);
-            DOC.due("a stall", x.count(11), 1);
-            x.undo();
-            DOC.due("ticks", all(x).equals(before), true);
-            x.watch();
-            x.undo();
-            DOC.due("watch", all(x).equals(before), true);
-            x.ticks(1);
-            before = all(x);
-            DOC.due("let go", x.free(0), true);
-            x.undo();
-            DOC.due("free", all(x).equals(before), true);
-            x.within(false, 1);
-            x.undo();
-            DOC.due("window", all(x).equals(before), true);
-            x.within(true, 1);
-            x.undo();
-            DOC.due("grace", all(x).equals(before), true);
-            DOC.due("told anew", x.ticks(4), 1);
-            // The stalls that made way for later ones come back.
+            HangWatch x = Check.made(Check.RICH);
+            for (int tick = 0; tick < 60; tick++) {
+                String before = Check.all(x);
+                x.ticks(1);
+                backTo(x, before, "one tick");
+                x.ticks(50);
+                backTo(x, before, "fifty ticks");
+                x.watch();
+                backTo(x, before, "watch");
+                x.within(false, 1);
+                backTo(x, before, "window");
+                x.within(true, 0);
+                backTo(x, before, "grace");
+                for (int w = 0; w < 8; w++) {
+                    if (x.free(w)) {
+                        backTo(x, before, "free");
+                    }
+                }
+                x.ticks(1);
+            }
+            // What was told and is undone is told anew; the kept ones that made way for later ones come back.
             HangWatch y = Check.made("window 1;grace 0;worker rest 2,again;");
             y.ticks(100);
-            before = all(y);
-            y.ticks(100);
-            y.undo();
-            DOC.due("the kept ones", all(y).equals(before), true);
+            String before = Check.all(y);
+            DOC.due("told", y.ticks(100), 33);
+            backTo(y, before, "the kept ones");
+            DOC.due("told anew", y.ticks(100), 33);
         });
         DOC.says("Promise 10", "how many more can be.", () -> {
             HangWatch x = Check.made("worker rest 99;");
@@ -231,23 +229,9 @@ public final class ActsBoundaryTest {
         });
     }
 
-    /** All that there is, as a text; what can be undone is left out. */
-    private static String all(HangWatch x) {
-        StringBuilder all = new StringBuilder();
-        for (int what = 0; what <= 11; what++) {
-            all.append(x.count(what)).append(' ');
-        }
-        for (int w = 0; w < 8; w++) {
-            for (int what = 0; what <= 13; what++) {
-                all.append(x.worker(w, what)).append(' ');
-            }
-            all.append(x.holder(w)).append(' ').append(x.pipe(w, false)).append(' ').append(x.messages(w, 1 - w)).append('\n');
-        }
-        for (int k = 0; k < 30; k++) {
-            for (int what = 0; what < 5; what++) {
-                all.append(x.stall(k, what)).append(' ');
-            }
-        }
-        return all.toString();
+    private static void backTo(HangWatch x, String before, String act) {
+        DOC.due(act + " changes something", Check.all(x).equals(before), false);
+        x.undo();
+        DOC.due(act + " is undone", Check.all(x).equals(before), true);
     }
 }

@@ -60,6 +60,39 @@ final class Check {
         return x;
     }
 
+    /** Locks, pipes, messages and rests at once; it goes on for hundreds of ticks, with stalls of every kind. */
+    static final String RICH = "window 3;grace 1;pipe 0 3;pipe 1 2;"
+        + "worker put 0,put 0,send 1,send 1,lock 0,rest 20,free 0,again;"
+        + "worker rest 4,await 0,get 0,rest 7,await 0,get 0,again;"
+        + "worker lock 1,work 30,free 1,stop;"
+        + "worker rest 6,get 0,put 1,put 1,lock 0,lock 1,put 1,rest 50;"
+        + "worker stop;worker rest 9,lock 2,lock 2,lock 2;worker get 1,rest 40,again;";
+
+    /** All that there is, as a text; what can be undone is left out. */
+    static String all(HangWatch x) {
+        StringBuilder all = new StringBuilder();
+        for (int what = 0; what <= 13; what++) {
+            all.append(what == 12 ? 0 : x.count(what)).append(' ');
+        }
+        for (int w = 0; w < 8; w++) {
+            for (int what = 0; what <= 13; what++) {
+                all.append(x.worker(w, what)).append(' ');
+            }
+            all.append(x.holder(w)).append(' ').append(x.pipe(w, false)).append(' ').append(x.pipe(w, true)).append(' ');
+            all.append(x.waits(w)).append(' ').append(x.way(w, -1)).append(' ').append(x.ring(w)).append('\n');
+            for (int k = 0; k < 12; k++) {
+                all.append(x.step(w, k, false)).append(' ').append(x.step(w, k, true)).append(' ');
+                all.append(x.messages(w, k)).append(' ');
+            }
+        }
+        for (int k = 0; k < 30; k++) {
+            for (int what = 0; what < 5; what++) {
+                all.append(x.stall(k, what)).append(' ');
+            }
+        }
+        return all.append(x.fault(0)).append(' ').append(x.fault(1)).toString();
+    }
+
     static String times(String part, int n) {
         return part.repeat(n);
     }

@@ -391,6 +391,12 @@ public final class StateBoundaryTest {
             x.ticks(1);
             DOC.due("ended", x.waits(1), 0);
             DOC.due("held up, for nobody", Check.made("worker get 0;").waits(0), 0);
+            HangWatch y = Check.made("worker get 0,rest 9;worker rest 9,put 0;worker get 1;worker rest 9,put 1;");
+            DOC.due("held up", y.waits(0) + y.waits(2), 2 + 8);
+            y.free(0);
+            y.free(2);
+            DOC.due("held up no more", y.waits(0), 0);
+            DOC.due("held up no more, but ended", y.waits(2), 0);
         });
         DOC.says("Promise 17", "NONE: there is none such.", () -> {
             DOC.due("-1", x.waits(-1), -1);

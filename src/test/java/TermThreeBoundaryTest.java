@@ -228,6 +228,13 @@ public final class TermThreeBoundaryTest {
         DOC.says(TERM, ": 1 the first byte or token with which no text goes on", () -> {
             DOC.fault("window 5;! wrong", 1, 9);
             DOC.fault("window wrong !", 1, 7);
+            DOC.fault("worker stop,wrong;", 1, 12);
+            DOC.fault("worker stop;wrong stop;", 1, 12);
+            DOC.fault("worker work 1,wrong 1;", 1, 14);
+            DOC.fault("window 10;wrong 5;", 1, 10);
+            DOC.fault("window 11;wrong 5;", 1, 10);
+            DOC.fault("pipe 0 9;worker work 9,wrong;", 1, 23);
+            nearWords();
             DOC.fault("window 0;worker send 0;" + EIGHT + "worker stop;?", 1, 23 + 96 + 12);
         });
         DOC.says(TERM, "(a longer row of digits is no token).", () -> {
@@ -237,6 +244,23 @@ public final class TermThreeBoundaryTest {
             DOC.fault("pipe 0 100;", 1, 7);
             DOC.fault("123", 1, 0);
         });
+    }
+
+    /** Every word with one letter changed, one more, one less. */
+    private static void nearWords() {
+        String[] words = {"window", "grace", "pipe", "worker", "work", "lock", "free", "put", "get", "send", "await", "rest",
+            "again", "stop"};
+        for (int i = 0; i < words.length; i++) {
+            String ahead = i < 4 ? "" : "worker ";
+            for (int k = 0; k < words[i].length(); k++) {
+                String left = words[i].substring(0, k);
+                String right = words[i].substring(k + 1);
+                DOC.fault(ahead + left + "q" + right + " 1;", 1, ahead.length());
+                DOC.fault(ahead + left + right + " 1;", 1, ahead.length());
+                DOC.fault(ahead + left + "q" + words[i].substring(k) + " 1;", 1, ahead.length());
+            }
+            DOC.fault(ahead + words[i] + "s 1;", 1, ahead.length());
+        }
     }
 
     private static void byPlace() {

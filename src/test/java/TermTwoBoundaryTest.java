@@ -98,6 +98,7 @@ public final class TermTwoBoundaryTest {
             can("none comes", "worker get 0,get 0;worker put 0,rest 9,rest 9;", 2, 0);
             can("behind again still not", "worker get 0;worker rest 1,rest 9,again,put 0;", 1, 0);
         });
+        DOC.says(TERM, "such a STEP is its own", TermTwoBoundaryTest::suchSteps);
         DOC.says(TERM, "Who HOLDS a LOCK may have ENDED.", () -> {
             HangWatch x = Check.made("worker rest 1,lock 0;worker lock 0;");
             x.ticks(1);
@@ -105,6 +106,28 @@ public final class TermTwoBoundaryTest {
             DOC.due("waited for", x.waits(0), 2);
             DOC.due("hard", x.worker(0, 7), 1);
         });
+    }
+
+    /** Whatever one waits at, of all steps that another one can have just those that it needs count. */
+    private static void suchSteps() {
+        String[] waits = {"put 0", "put 1", "put 2", "put 3", "get 0", "get 1", "get 2", "get 3", "await 1"};
+        String[] needs = {"get 0", "get 1", "get 2", "get 3", "put 0", "put 1", "put 2", "put 3", "send 0"};
+        StringBuilder steps = new StringBuilder("work 1,lock 0,free 0,rest 1,again,stop,await 0");
+        for (int k = 0; k < 8; k++) {
+            steps.append(",send ").append(k == 1 ? 0 : k).append(k < 4 ? ",put " + k + ",get " + k + ",lock " + k : "");
+        }
+        for (int i = 0; i < waits.length; i++) {
+            for (String step : steps.toString().split(",")) {
+                // Worker 1 comes to the step behind a rest, worker 0 fills the pipe first where it puts.
+                String fills = waits[i].startsWith("put") ? waits[i] + "," : "";
+                HangWatch x = Check.made("worker " + fills + waits[i] + ";worker rest 9," + step + ";" + Check.times("worker stop;", 6));
+                x.ticks(1);
+                DOC.due("at " + waits[i] + ", another can " + step, x.waits(0), step.equals(needs[i]) ? 2 : 0);
+                x.ticks(50);
+                boolean ended = x.worker(1, 0) == -1;
+                DOC.due("ended, at " + waits[i] + " behind " + step, ended && x.worker(0, 6) == 1 ? x.waits(0) : 0, 0);
+            }
+        }
     }
 
     /** For whom worker 0, which is held up behind some ticks, waits. */
@@ -332,6 +355,14 @@ public final class TermTwoBoundaryTest {
             for (int w = 0; w < want.length; w++) {
                 DOC.due("blocker of " + w, x.worker(w, 10), want[w]);
             }
+            // The same, but no stall has been told yet.
+            HangWatch z = Check.made("window 50;worker get 3;worker rest 3,lock 0;worker lock 0,work 1,get 3,rest 9;worker rest 3,lock 0;");
+            z.ticks(4);
+            DOC.due("without a stall", z.worker(0, 10), 2);
+            z.free(2);
+            DOC.due("as all is now", z.worker(0, 10), 0);
+            z.undo();
+            DOC.due("and again", z.worker(0, 10), 2);
             // Either of 0 and 1 would go, but not the other one with it.
             HangWatch y = Check.made("worker get 0;worker get 1;");
             DOC.due("alone", y.worker(1, 10), 0);

@@ -163,9 +163,20 @@ public final class TextBoundaryTest {
                 DOC.due("steps of " + w, x.worker(w, 5), 0);
             }
             DOC.due("its own program", x.worker(0, 13), 2);
+            x.ticks(9);
+            DOC.due("all have ended", x.count(1), 3);
+            Check.tell(x, "worker rest 9;worker rest 9;worker rest 9;");
+            DOC.due("none has ended", x.count(1), 0);
+            DOC.due("a neighbour that had", x.worker(0, 11), 1);
+            Check.tell(x, "worker lock 1,rest 3;worker stop;worker stop;");
             DOC.due("no step of the old one", x.step(0, 2, false), -1);
             x.text();
             DOC.due("an empty text: no workers", x.count(0), 0);
+            Check.tell(x, Check.RICH);
+            x.ticks(50);
+            Check.tell(x, Check.RICH);
+            DOC.due("as on a new object", Check.all(x).equals(Check.all(Check.made(Check.RICH))), true);
+            x.text();
             DOC.due("window", x.count(3), 4);
         });
         DOC.says("Promise 4", "at TICK 0, no STALLS (nothing can be UNDONE)", () -> {

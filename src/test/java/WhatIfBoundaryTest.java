@@ -27,6 +27,20 @@ public final class WhatIfBoundaryTest {
             DOC.due("itself, though it ends by it", x.freed(1), 1);
             DOC.due("hard again at once", x.freed(2), 0);
             DOC.due("one that is not hard", x.freed(3), 0);
+            DOC.due("none is hard", Check.made("worker get 0;worker rest 9,put 0;").freed(0), 0);
+            HangWatch v = Check.made("worker await 1;worker get 0,rest 9,send 0;");
+            DOC.due("itself, though it waits for another", v.freed(0), 1);
+            v.free(1);
+            DOC.due("held up, none is hard any more", v.freed(0), 0);
+            DOC.due("worker 0 alone is", Check.made("worker get 0;worker rest 9;").freed(0), 1);
+            HangWatch z = Check.made(Check.RICH);
+            for (int tick = 0; tick < 120; tick++) {
+                for (int w = 0; w < z.count(0); w++) {
+                    int freed = z.freed(w);
+                    DOC.due("freed(" + w + ") at " + tick, freed, freedInFact(z, w));
+                }
+                z.ticks(1);
+            }
             // 0 holds what all the others want.
             HangWatch y = Check.made("worker lock 0,get 0,rest 9;" + Check.times("worker rest 1,lock 0;", 7));
             y.ticks(1);
@@ -49,20 +63,47 @@ public final class WhatIfBoundaryTest {
         });
     }
 
+    /** The same by letting go and undoing. */
+    private static int freedInFact(HangWatch x, int worker) {
+        int before = hard(x);
+        if (!x.free(worker)) {
+            return -1;
+        }
+        int behind = hard(x);
+        x.undo();
+        return Integer.bitCount(before & ~behind);
+    }
+
+    private static int hard(HangWatch x) {
+        int hard = 0;
+        for (int w = 0; w < x.count(0); w++) {
+            hard |= x.worker(w, 7) << w;
+        }
+        return hard;
+    }
+
     private static void later() {
         DOC.says("Promise 22", "Behind n TICKS, 0 to 200, what (5 to 9 and 1, as count()).", () -> {
-            String text = "window 3;grace 1;worker lock 0,rest 8,free 0;worker rest 1,lock 0;worker lock 1,lock 1;worker rest 5,again;worker get 0;";
-            HangWatch x = Check.made(text);
-            HangWatch y = Check.made(text);
+            HangWatch x = Check.made(Check.RICH);
+            HangWatch y = Check.made(Check.RICH);
             for (int n = 0; n <= 200; n++) {
                 for (int what : new int[] {1, 5, 6, 7, 8, 9}) {
                     DOC.due("later(" + n + ", " + what + ")", x.later(n, what), y.count(what));
                 }
                 y.ticks(1);
             }
-            DOC.due("nothing has passed", x.count(2), 0);
-            DOC.due("nothing was told", x.count(11), 0);
+            DOC.due("nothing has changed", Check.all(x).equals(Check.all(Check.made(Check.RICH))), true);
             DOC.due("no act", x.count(12), 0);
+            // As all is now: from any tick on.
+            for (int from = 1; from <= 60; from++) {
+                x.ticks(1);
+                y = Check.made(Check.RICH);
+                y.ticks(from);
+                y.ticks(10);
+                for (int what : new int[] {1, 5, 6, 7, 8, 9}) {
+                    DOC.due("later(10, " + what + ") at " + from, x.later(10, what), y.count(what));
+                }
+            }
             DOC.due("no workers", new HangWatch().later(200, 5), 0);
         });
         DOC.says("Promise 22", "NONE: another n, what.", () -> {
@@ -90,6 +131,13 @@ public final class WhatIfBoundaryTest {
             HangWatch y = Check.made("worker get 0;worker rest 5,put 0;");
             DOC.due("behind what the other does", y.ends(0), 7);
             DOC.due("in one tick with its step", y.ends(1), 6);
+            // As all is now: what lies in a pipe, what has come, who holds, how far a step is.
+            HangWatch z = Check.made("pipe 0 2;worker put 0,put 0,send 1,lock 0,rest 3,free 0,rest 9;worker rest 9,get 0,get 0,await 0,lock 0;");
+            for (int tick = 0; tick <= 20; tick++) {
+                DOC.due("ends(0) at " + tick, z.ends(0), Math.max(0, 17 - tick));
+                DOC.due("ends(1) at " + tick, z.ends(1), Math.max(0, 13 - tick));
+                z.ticks(1);
+            }
         });
         DOC.says("Promise 23", "NONE: by then not, there is none such.", () -> {
             HangWatch x = Check.made("worker rest 99,rest 99,rest 3;worker get 0;worker again;");
@@ -120,6 +168,15 @@ public final class WhatIfBoundaryTest {
                 x.within(false, window);
                 DOC.due("told(1, " + window + ")", one, x.ticks(1));
                 DOC.due("told(200, " + window + ")", all, one + x.ticks(199));
+            }
+            for (int tick = 1; tick <= 60; tick++) {
+                HangWatch x = Check.made(Check.RICH);
+                x.ticks(tick);
+                String before = Check.all(x);
+                int stalls = x.told(20, 2);
+                DOC.due("nothing has changed", Check.all(x).equals(before), true);
+                x.within(false, 2);
+                DOC.due("told(20, 2) at " + tick, stalls, x.ticks(20));
             }
             HangWatch y = Check.made("window 50;worker get 0;");
             DOC.due("one tick, the least window", y.told(1, 1), 1);
@@ -156,6 +213,11 @@ public final class WhatIfBoundaryTest {
             y.ticks(1);
             DOC.due("all that end, one behind the other", y.fewest(false), 3);
             DOC.due("nobody is let go in fact", y.count(7), 3);
+            HangWatch z = Check.made(Check.RICH);
+            for (int tick = 0; tick < 120; tick++) {
+                fewestInFact(z, z.fewest(false), z.fewest(true));
+                z.ticks(1);
+            }
             DOC.due("no act", y.count(12), 1);
         });
         DOC.says("Promise 25", "or (bits) the least set of so many, as bits.", () -> {
@@ -177,6 +239,35 @@ public final class WhatIfBoundaryTest {
             DOC.due("hard again behind it", x.fewest(false), -1);
             DOC.due("no set", x.fewest(true), -1);
         });
+    }
+
+    /** No smaller set, and none of so many with fewer bits, leaves none hard when let go and undone. */
+    private static void fewestInFact(HangWatch x, int many, int set) {
+        int best = -1;
+        for (int bits = 0; bits < 1 << x.count(0); bits++) {
+            if ((best < 0 || Integer.bitCount(bits) < Integer.bitCount(best)) && leavesNoneHard(x, bits)) {
+                best = bits;
+            }
+        }
+        DOC.due("fewest(true) at " + x.count(2), set, best);
+        DOC.due("fewest(false) at " + x.count(2), many, best < 0 ? -1 : Integer.bitCount(best));
+    }
+
+    private static boolean leavesNoneHard(HangWatch x, int bits) {
+        int acts = 0;
+        boolean all = true;
+        for (int w = 0; w < x.count(0); w++) {
+            if ((bits >> w & 1) == 1) {
+                boolean free = x.free(w);
+                all &= free;
+                acts += free ? 1 : 0;
+            }
+        }
+        boolean none = all && x.count(7) == 0;
+        for (int i = 0; i < acts; i++) {
+            x.undo();
+        }
+        return none;
     }
 
     private static void image() {
@@ -236,6 +327,18 @@ public final class WhatIfBoundaryTest {
         DOC.due("its own bytes", x.worker(0, 13), 2);
     }
 
+    /** Quite another text, with as many workers as can be, goes its way; then a wrong one comes. */
+    private static void tellOther(HangWatch x) {
+        String rests = "worker " + Check.times("rest 2,", 9) + "again;";
+        String text = "window 2;grace 2;pipe 0 9;pipe 3 9;worker " + Check.times("put 0,", 6) + Check.times("put 3,", 5) + "put 3;"
+            + "worker lock 0,lock 1,lock 2,send 0;" + Check.times(rests, 6);
+        DOC.due("another text", Check.tell(x, text), 8);
+        x.ticks(40);
+        Check.tell(x, "wrong");
+        x.feed(0, 0, 0, 0, 0);
+        Check.all(x);
+    }
+
     private static void again() {
         DOC.says("Promise 27", "All that is is as image k has it", () -> {
             HangWatch x = Check.made("window 2;grace 3;pipe 0 9;worker put 0,send 1,lock 0,lock 0;worker rest 99;");
@@ -263,6 +366,20 @@ public final class WhatIfBoundaryTest {
                 DOC.stall(x, 1, 5, 1, 2, -1, -1);
                 DOC.due("what was told is told", x.ticks(9), 0);
                 DOC.due("the tick goes on", x.count(2), 16);
+            }
+            for (int tick = 1; tick <= 60; tick++) {
+                HangWatch y = Check.made(Check.RICH);
+                y.ticks(tick);
+                String before = Check.all(y);
+                y.image(2);
+                tellOther(y);
+                y.again(2);
+                DOC.due("all at " + tick, Check.all(y).equals(before), true);
+                HangWatch z = Check.made(Check.RICH);
+                z.ticks(tick);
+                z.ticks(30);
+                y.ticks(30);
+                DOC.due("it goes on as it would have", Check.all(y).equals(Check.all(z)), true);
             }
         });
         DOC.says("Promise 27", "(nothing can be UNDONE then): true", () -> {
