@@ -308,6 +308,7 @@ public final class StateBoundaryTest {
                 DOC.due("worker -1", x.step(-1, 0, number), -1);
                 DOC.due("worker 2", x.step(2, 0, number), -1);
                 DOC.due("worker 8", x.step(8, 0, number), -1);
+                DOC.due("worker 8 of 8", Check.made(Check.times("worker stop;", 8)).step(8, 0, number), -1);
                 for (int far : FAR) {
                     DOC.due("worker " + far, x.step(far, 0, number), -1);
                     DOC.due("step " + far, x.step(1, far, number), -1);

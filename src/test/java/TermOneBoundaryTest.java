@@ -46,6 +46,11 @@ public final class TermOneBoundaryTest {
             DOC.due("one step", Check.made("worker stop;").worker(0, 13), 1);
             DOC.due("12 steps", Check.made("worker " + Check.times("stop,", 11) + "stop;").worker(0, 13), 12);
             DOC.fault("worker " + Check.times("stop,", 12) + "stop;", 3, 67);
+            HangWatch x = Check.made(Check.times("worker " + Check.times("put 3,", 11) + "put 3;", 8));
+            for (int w = 0; w < 8; w++) {
+                DOC.due("12 steps of each of 8", x.worker(w, 13), 12);
+                DOC.due("its last", x.step(w, 11, false), 3);
+            }
         });
         DOC.says(TERM, "LOCKS 0 to 5", () -> {
             HangWatch x = Check.made("worker lock 0,lock 1,lock 2,lock 3,lock 4,lock 5;");

@@ -304,6 +304,13 @@ public final class TermTwoBoundaryTest {
             HangWatch x = Check.made("worker get 0;worker get 1,put 0;");
             way(x, 0, 0, 1);
             way(x, 1, 1);
+            StringBuilder eight = new StringBuilder();
+            for (int w = 0; w < 7; w++) {
+                eight.append("worker await ").append(w + 1).append(w == 0 ? ";" : ",send " + (w - 1) + ";");
+            }
+            HangWatch y = Check.made(eight + "worker get 0,send 6;");
+            way(y, 0, 0, 1, 2, 3, 4, 5, 6, 7);
+            DOC.due("eight without a ring", y.ring(0), 0);
         });
         DOC.says(TERM, ", or has ENDED", () -> {
             HangWatch x = Check.made("worker rest 1,lock 0;worker lock 0;");
